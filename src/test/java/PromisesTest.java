@@ -152,6 +152,15 @@ public final class PromisesTest {
         is(2, tell(x, "A=1;A=a+2;"));
         is(7, x.see(5, 0, 0, 0, 0));
         is(0, tell(x, "   "));
+        // room for the orders of a lens is had again from one to the next
+        String full = repeat("a+", 190) + "a;";
+        for (int i = 0; i < 20; i++) {
+            is(1, tell(x, "C=" + full));
+            is(191, x.see(1, 0, 0, 0, 2));
+        }
+        is(-9, tell(x, "C=" + full + "D=?;"));
+        is(191, x.see(1, 0, 0, 0, 2));
+        is(1, tell(x, "law a<" + full));
     }
 
     private static void promise3Grammar() {
@@ -227,6 +236,9 @@ public final class PromisesTest {
         is("-8 2", faultOf("A=99999999999999999999;"));
         is("-8 2", faultOf("A=00010000x"));
         is("-9 4", faultOf("A=1 10000;"));
+        is("-8 13", faultOf("law a<1 or b<10000;"));
+        is("-8 14", faultOf("law a<1 and b<10000;"));
+        is("-7 32", faultOf("law [a<1 or not not not not not [a<1 or not b<1];"));
         is("1 -1", faultOf("A=9999;"));
         is("1 -1", faultOf("A=0000000009999;"));
         is("-7 64", faultOf(repeat("A=1;", 17).substring(0, 65)));
@@ -376,6 +388,25 @@ public final class PromisesTest {
         is(2, tell(x, "keep b;keep c;"));
         is(9, x.lost());
         is(0, new LedTables().lost());
+    }
+
+    /** One pair of 4,096 rows that is alike; rows that are SEEN alike and are unlike BESIDE. */
+    private static void promise10Full() {
+        for (int other = 7; other < 4095; other += 511) {
+            LedTables x = with("A=if(a*512+b*64+c*8+d=4095," + other + ",a*512+b*64+c*8+d);");
+            for (int letter = 0; letter < 4; letter++) {
+                x.box(letter, 0, 7);
+            }
+            int due = 0;
+            for (int letter = 0; letter < 4; letter++) {
+                due |= (other >> 3 * (3 - letter) & 7) != 7 ? 1 << letter : 0;
+            }
+            is(due, x.lost());
+            is(4, tell(x, "A=a+d;keep a;keep b;keep c;"));
+            is(0, x.lost());
+            is(3, tell(x, "A=a+d;keep a;keep b;"));
+            is(4, x.lost());
+        }
     }
 
     private static void promise11() {
@@ -1197,6 +1228,20 @@ public final class PromisesTest {
         is(NONE, x.asked(0, 0, 3, false));
         x.delete(0);
         is(4, x.asked(1, 0, 3, false));
+        LedTables y = new LedTables();
+        y.insert(0);
+        for (int i = 0; i < 128; i++) {
+            int[] a = {i / 16, i / 8 % 2, i / 2 % 4, i % 2};
+            is(NONE, y.asked(a[0], a[1], a[2], a[3] == 1));
+            if (a[3] == 1) {
+                y.write(a[0], 0, a[1], a[2], 1);
+            } else {
+                y.read(a[0], 0, a[1], a[2]);
+            }
+            is(i, y.asked(a[0], a[1], a[2], a[3] == 1));
+            y.tick(1);
+        }
+        is(0, y.asked(0, 0, 0, false));
         fails(BAD, () -> x.asked(-1, 0, 0, true));
         fails(BAD, () -> x.asked(8, 0, 0, true));
         fails(BAD, () -> x.asked(0, -1, 0, true));
