@@ -608,8 +608,8 @@ public final class LedTables {
                 case MINUS: return left - right;
                 case TIMES: return left * right;
                 case OVER: return right == 0 ? 0 : left / right;
-                case LEAST: return Math.min(left, right);
-                case MOST: return Math.max(left, right);
+                case LEAST: return left < right ? left : right;
+                case MOST: return left > right ? left : right;
                 case BELOW: return left < right ? 1 : 0;
                 case ABOVE: return left > right ? 1 : 0;
                 case SAME: return left == right ? 1 : 0;
@@ -929,10 +929,11 @@ public final class LedTables {
         }
 
         private boolean readClosing(char sign) {
-            if (!readSign(sign)) {
-                return false;
+            if (!isSign(sign)) {
+                return fail(CANT_STAND);
             }
             open--;
+            at++;
             return true;
         }
 
@@ -972,7 +973,10 @@ public final class LedTables {
         }
 
         private void skipBlanks() {
-            for (int turn = 0; turn < TAPE_BYTES && byteAt(at) == ' '; turn++) {
+            for (int turn = 0; turn < TAPE_BYTES && at >= 0 && at < length && at < text.length; turn++) {
+                if (text[at] != ' ') {
+                    return;
+                }
                 at++;
             }
         }
