@@ -769,9 +769,10 @@ public final class LensEdgesTest extends Edges {
     /** What stands on the tape behind the n bytes, or stood there once, is no part of the text. */
     @Says("The first n bytes of the TAPE")
     static void bytesBehindTheFirst() {
-        String[] texts = {"A=1;", "A=10000;", "A=ab;", "keep a;", "law 1<2;", "A=1; B=2;"};
-        int[] bytes = {3, 6, 3, 3, 2, 6};
-        String[] due = {"-9 3", "-9 6", "-9 3", "-9 0", "-9 0", "-9 6"};
+        String[] texts = {"A=1;", "A=10000;", "A=ab;", "keep a;", "law 1<2;", "A=1; B=2;", "A=1    ;",
+            "A=1    ;"};
+        int[] bytes = {3, 6, 3, 3, 2, 6, 3, 5};
+        String[] due = {"-9 3", "-9 6", "-9 3", "-9 0", "-9 0", "-9 6", "-9 3", "-9 5"};
         for (int i = 0; i < texts.length; i++) {
             LedTables x = new LedTables();
             feedText(x, texts[i]);
