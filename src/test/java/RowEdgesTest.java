@@ -294,6 +294,29 @@ public final class RowEdgesTest extends Edges {
         is(0, y.asked(0, 0, 0, false));
     }
 
+    /** It is kept of programs and letters, so it is no matter what becomes of the row. */
+    @Says("of each form, each LETTER the latest TICK in which it was read, or written.")
+    static void askedOutlivesTheRow() {
+        LedTables x = led(1);
+        x.tick(20);
+        x.read(0, 0, 0, 0);
+        x.write(3, 0, 0, 0, 1);
+        x.read(0, 0, 1, 1);
+        is(true, x.delete(0));
+        is("20 20 20", x.asked(0, 0, 0, false) + " " + x.asked(3, 0, 0, true) + " " + x.asked(0, 1, 1, false));
+        is(9, x.still(0, 20));
+        is(0, x.insert(0));
+        is(9, x.still(0, 20));
+        back(x, 0);
+        is("20 20 20", x.asked(0, 0, 0, false) + " " + x.asked(3, 0, 0, true) + " " + x.asked(0, 1, 1, false));
+        is(true, x.delete(0));
+        to(x, 4);
+        is(0, x.go());
+        x.tick(11);
+        is(1, x.go());
+        is(9, x.still(0, 20));
+    }
+
     @Says("When a LETTER of a form was last read (or written) by a PROGRAM; NONE: never.")
     static void askedRefuses() {
         LedTables x = led(1);

@@ -69,6 +69,25 @@ public final class RulesTest {
         checkInside(LedTables.class, names);
     }
 
+    /** Each line of the face as the document has it, its exceptions too, stands in the class. */
+    private static void checkDocument(String text) throws IOException {
+        Path path = Path.of("../shared/DOC.md");
+        if (!Files.exists(path)) {
+            return;
+        }
+        String code = text.replaceAll("\\s+", " ");
+        int lines = 0;
+        for (String line : Files.readAllLines(path, StandardCharsets.UTF_8)) {
+            if (line.startsWith("    public ") && line.endsWith(";")) {
+                String bare = line.trim();
+                String due = bare.contains("(") ? bare.substring(0, bare.length() - 1) + " {" : bare;
+                holds(code.contains(due), "the face: " + bare);
+                lines++;
+            }
+        }
+        holds(lines == FACE.length + 3, "the face has " + lines + " lines");
+    }
+
     private static void checkInside(Class<?> outer, Set<String> names) {
         checkFields(outer);
         for (Class<?> inside : outer.getDeclaredClasses()) {
@@ -139,6 +158,7 @@ public final class RulesTest {
     public static void main(String[] args) throws IOException {
         checkFace();
         String text = Files.readString(Path.of("src/main/java/LedTables.java"), StandardCharsets.ISO_8859_1);
+        checkDocument(text);
         checkText(text);
         checkLengths(text);
         System.out.println("rules not kept: " + wrong);

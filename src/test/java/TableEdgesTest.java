@@ -385,6 +385,10 @@ public final class TableEdgesTest extends Edges {
             x.first(1);
             is(1, x.write(2, 0, 0, 0, 7));
             is(1, x.write(2, 0, 0, 0, 8));
+            x.tick(1);
+            x.first(0);
+            is(1, x.write(2, 1, 0, 0, 7));
+            is(1, x.write(2, 0, 1, 0, 8));
         }
     }
 
@@ -408,6 +412,27 @@ public final class TableEdgesTest extends Edges {
         is(0, x.write(0, 0, 0, 0, 8));
         x.first(0);
         is(1, x.write(0, 0, 0, 0, 8));
+    }
+
+    @Says("In a TICK a ROW that was written in one form is not written in the other (REFUSED), but the form that is FIRST")
+    static void writtenInBothForms() {
+        for (int first = 0; first <= 1; first++) {
+            int other = 1 - first;
+            LedTables x = lawful(2, 1);
+            x.first(first);
+            is(1, x.write(0, 0, other, 0, 3));
+            is(1, x.write(0, 0, first, 0, 4));
+            // it was written in the other form, too, though not as the latest
+            x.first(other);
+            is(0, x.write(0, 0, first, 0, 5));
+            is(4, x.read(0, 0, 0, 0));
+            is(1, x.write(0, 0, other, 0, 6));
+            x.first(first);
+            is(0, x.write(0, 0, other, 0, 7));
+            is(6, x.read(0, 0, 0, 0));
+            x.tick(1);
+            is(1, x.write(0, 0, other, 0, 7));
+        }
     }
 
     @Says("Which form is FIRST (0 at first): what it was.")
